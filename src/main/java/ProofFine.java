@@ -1061,26 +1061,21 @@ public final class ProofFine {
             if (start >= length) {
                 return END;
             }
-            if (isWithin(start, 'a', 'z')) {
-                passRun('a', 'z');
+            if (passRun('a', 'z')) {
                 return NAME;
             }
-            if (isWithin(start, '0', '9')) {
-                passRun('0', '9');
+            if (passRun('0', '9')) {
                 return next - start > 2 ? WRONG : NUMBER;
             }
             next++;
             return bytes[start] == ';' ? STOP : WRONG;
         }
 
-        private void passRun(int least, int most) {
-            while (isWithin(next, least, most)) {
+        private boolean passRun(int least, int most) {
+            while (next < length && bytes[next] >= least && bytes[next] <= most) {
                 next++;
             }
-        }
-
-        private boolean isWithin(int i, int least, int most) {
-            return i < length && bytes[i] >= least && bytes[i] <= most;
+            return next > start;
         }
 
         int number() {

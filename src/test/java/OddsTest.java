@@ -108,6 +108,8 @@ public final class OddsTest {
         x = Check.told("village 0 0;village 40 0;plain 0 0 0;plain 0 0 0;round 4;");
         CHECK.due("drift(1, 1, 0)", x.drift(1, 1, 0), 15);
         CHECK.due("drift(1, 2, 0)", x.drift(1, 2, 0), 30);
+        // by seed 0 is got 0 first
+        CHECK.due("drift(0, 1, 0)", x.drift(0, 1, 0), 15);
         x.find(0, 0, 0, 0);
         // in the third night WATCH of 1 is 4; in the fourth 9; then the crowner comes to 0, which has nothing
         CHECK.due("drift(1, 4, 0)", x.drift(1, 4, 0), 30);

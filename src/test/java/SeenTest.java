@@ -118,5 +118,10 @@ public final class SeenTest {
         x.see(0, 4, 2);
         CHECK.due("kinds(0): mixed alone", x.kinds(0), 8);
         CHECK.due("look(0, 0): one is never fewer", x.look(0, 0), NONE);
+        x = Check.told("village 5 0;village 50 8;plain 0 2 0;round 9;");
+        CHECK.due("look(0, 0): the last night", x.look(0, 0), 9);
+        CHECK.due("look(0, 1): the last night", x.look(0, 1), 2);
+        x.grant(1, 1, 9);
+        CHECK.due("look(0, 0): too late", x.look(0, 0), NONE);
     }
 }
