@@ -685,11 +685,11 @@ public final class ProofFine {
         }
         Sheet sheet = sheets[k];
         int before = now.bodies;
-        int fault = sheet.faultAs(lane);
+        int fault = 0;
         int came = 0;
         for (int i = 0; i < n && fault == 0; i++) {
             long first = (long) f + 2 * i;
-            fault = sheet.faultOfPair(first);
+            fault = sheet.faultOfPair(lane, first);
             if (fault == 0) {
                 int cell = (int) first;
                 if (addFound(sheet.cells[cell], sheet.cells[cell + 1], 0, 0) < 0) {
@@ -1006,11 +1006,6 @@ public final class ProofFine {
             }
         }
 
-        /** Nothing may be taken as of any lane: the machine refuses only to read of it. */
-        int faultAs(int taken) {
-            return there && lane != taken ? CAST_FAULT : 0;
-        }
-
         int faultAt(long i) {
             if (!there) {
                 return NULL_FAULT;
@@ -1018,7 +1013,11 @@ public final class ProofFine {
             return i < 0 || i >= size ? INDEX_FAULT : 0;
         }
 
-        int faultOfPair(long first) {
+        /** The lane is looked at with each pair: a sheet of which no pair is read refuses nothing. */
+        int faultOfPair(int taken, long first) {
+            if (there && lane != taken) {
+                return CAST_FAULT;
+            }
             int fault = faultAt(first);
             return fault != 0 ? fault : faultAt(first + 1);
         }

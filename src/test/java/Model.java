@@ -781,12 +781,9 @@ final class Model {
         int came = 0;
         int met = 0;
         try {
-            byte[] bytes = lane == 0 ? (byte[]) sheets[k] : null;
-            short[] shorts = lane == 1 ? (short[]) sheets[k] : null;
-            int[] ints = lane == 2 ? (int[]) sheets[k] : null;
             for (int i = f; came < n; i += 2) {
-                int kind = lane == 0 ? bytes[i] : lane == 1 ? shorts[i] : ints[i];
-                int g = lane == 0 ? bytes[i + 1] : lane == 1 ? shorts[i + 1] : ints[i + 1];
+                int kind = cell(sheets[k], lane, i);
+                int g = cell(sheets[k], lane, i + 1);
                 if (find(kind, g, 0, 0) < 0) {
                     land.bodies = before;
                     return -20 - came;
@@ -802,6 +799,14 @@ final class Model {
         }
         torn = met;
         return came;
+    }
+
+    private static int cell(Object row, int lane, int i) {
+        switch (lane) {
+            case 0: return ((byte[]) row)[i];
+            case 1: return ((short[]) row)[i];
+            default: return ((int[]) row)[i];
+        }
     }
 
     int torn() {

@@ -246,6 +246,15 @@ public final class SheetTest {
         CHECK.due("torn(): no CELL was read", x.torn(), 0);
         CHECK.due("read(1, 0, 0, 0)", x.read(1, 0, 0, 0), 0);
         CHECK.due("torn(): nothing was read of nothing", x.torn(), 0);
+        CHECK.due("read(0, 1, 0, 1)", x.read(0, 1, 0, 1), 0);
+        CHECK.due("torn(): CAST", x.torn(), 3);
+        CHECK.due("read(0, 1, 0, 0)", x.read(0, 1, 0, 0), 0);
+        CHECK.due("torn(): nothing was read as of another lane", x.torn(), 0);
+        x.sheet(3, 0, 0);
+        CHECK.due("read(3, 1, 0, 1)", x.read(3, 1, 0, 1), 0);
+        CHECK.due("torn(): CAST also of no CELLS", x.torn(), 3);
+        CHECK.due("read(3, 2, -1, 0)", x.read(3, 2, -1, 0), 0);
+        CHECK.due("torn(): nothing was read of no CELLS", x.torn(), 0);
     }
 
     private static void counts() {
