@@ -1,15 +1,35 @@
 /** Counts answers that are not as due, and ends a test by them. */
 final class Check {
+    /** A call that has not ended after so long is taken to have no end. */
+    private static final long LONGEST_MILLIS = 120_000;
+
     private final String test;
-    private int asked;
+    private volatile int asked;
     private int wrong;
 
     Check(String test) {
         this.test = test;
+        Thread watcher = new Thread(this::waitForNoEnd);
+        watcher.setDaemon(true);
+        watcher.start();
+    }
+
+    private void waitForNoEnd() {
+        int before = -1;
+        while (before != asked) {
+            before = asked;
+            try {
+                Thread.sleep(LONGEST_MILLIS);
+            } catch (InterruptedException e) {
+                return;
+            }
+        }
+        System.out.println(test + ": the call behind the " + before + "th answer does not end");
+        Runtime.getRuntime().halt(1);
     }
 
     void due(String call, long got, long want) {
-        asked++;
+        asked = asked + 1;
         if (got != want) {
             wrong++;
             if (wrong <= 40) {

@@ -34,6 +34,7 @@ public final class NightEdgesTest {
         settledFirst();
         aheadOfManyDays();
         asItWouldBe();
+        manyCalls();
         CHECK.end();
     }
 
@@ -420,5 +421,20 @@ public final class NightEdgesTest {
                 CHECK.due("WAY behind " + n, run.body(b, 4), asked.ahead(b, n, 1));
             }
         }
+    }
+
+    /** "An object is used for at most 512 calls after it has been made": the 512th is as good as the first. */
+    private static void manyCalls() {
+        String text = "village 60 9;village 9 9;plain 0 2 0;round 9;";
+        ProofFine x = Check.told(text);
+        int calls = text.length() + 1;
+        int days = 0;
+        while (calls < 510) {
+            CHECK.due("PAID", x.nights(1), days == 0 ? 5 : 0);
+            days++;
+            calls++;
+        }
+        CHECK.due("the 511th call: DAY", x.rule(5), days);
+        CHECK.due("the 512th call: MEANS", x.count(0), 64);
     }
 }
