@@ -24,7 +24,7 @@ final class Check {
                 return;
             }
         }
-        System.out.println(test + ": the call behind the " + before + "th answer does not end");
+        System.out.println(test + ": the call behind answer " + before + " does not end");
         Runtime.getRuntime().halt(1);
     }
 
